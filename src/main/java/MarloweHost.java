@@ -500,10 +500,7 @@ public final class MarloweHost {
 
         /** A new NODE; only called where there is room for one. */
         int add(int kind, long number) {
-            int node = size;
-            if (node < 0 || node >= MOST_NODES) {
-                return MOST_NODES - 1;
-            }
+            int node = Math.min(size, MOST_NODES - 1);
             kinds[node] = kind;
             left[node] = NONE;
             middle[node] = NONE;
@@ -514,7 +511,7 @@ public final class MarloweHost {
             behind[node] = node + 1;
             into[node] = false;
             numbers[node] = number;
-            size++;
+            size = node + 1;
             return node;
         }
 
@@ -1447,16 +1444,15 @@ public final class MarloweHost {
             Situation next = levels[level + 1];
             next.copyFrom(levels[level]);
             long time = kind == STEP_TIME ? stepNumber[level] : next.time;
-            setInput(kind, stepNumber[level], stepNode[level]);
+            setInput(stepNode[level], stepNumber[level]);
             return machine.run(next, inputs, time, time) == 0;
         }
 
-        private void setInput(int kind, long number, int action) {
+        private void setInput(int action, long number) {
             inputs.size = 0;
-            if (kind == STEP_ALONE || kind == STEP_TIME || !tree.has(action)) {
-                return;
+            if (tree.has(action)) {
+                inputs.add(tree.kinds[action], tree.first[action], tree.second[action], tree.third[action], number);
             }
-            inputs.add(tree.kinds[action], tree.first[action], tree.second[action], tree.third[action], number);
         }
     }
 }

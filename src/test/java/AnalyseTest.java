@@ -17,6 +17,7 @@ public final class AnalyseTest {
         fromWhereItStands();
         withoutWallets();
         leavesAllElse();
+        againTheSame();
         stepArguments();
         countArguments();
         Expect.finish();
@@ -65,6 +66,9 @@ public final class AnalyseTest {
         stepIs(analysed("pay a into b t 1 close", MarloweHost.FOUND, 1, 1), 0, 0, 0, -1);
         stepIs(analysed("let x 1 let x 1 close", MarloweHost.FOUND, 1, 1), 0, 0, 0, -1);
         stepIs(analysed("assert false close", MarloweHost.FOUND, 1, 1), 0, 0, 0, -1);
+        stepIs(analysed("when [] 0 assert false close", MarloweHost.FOUND, 1, 1), 0, 0, 0, -1);
+        stepIs(analysed("when [] -5 assert false close", MarloweHost.FOUND, 1, 1), 0, 0, 0, -1);
+        stepIs(analysed("when [] 1 assert false close", MarloweHost.FOUND, 1, 1), 0, 4, 1, -1);
         stepIs(analysed("when [notify true assert false close] 5 close", MarloweHost.FOUND, 1, 1), 0, 3, 0, 1);
     }
 
@@ -218,6 +222,16 @@ public final class AnalyseTest {
         Expect.read(x, "close");
         Expect.is("end() leaves the STEPS", 1, () -> x.count(9));
         stepIs(x, 0, 1, 0, 5);
+    }
+
+    private static void againTheSame() {
+        String text = "when [choice q a [1 4] when [choice r a [5 9] assert < + chosen q a chosen r a 10 close] 9 close] 8 close";
+        MarloweHost x = Expect.host(text);
+        for (int i = 0; i < 3; i++) {
+            analysed(x, text, MarloweHost.FOUND, 6, 2);
+            stepIs(x, 0, 2, 1, 1);
+            stepIs(x, 1, 2, 9, 3);
+        }
     }
 
     private static void stepArguments() {

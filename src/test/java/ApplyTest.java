@@ -30,6 +30,9 @@ public final class ApplyTest {
         errorChangesNothing();
         toldArguments();
         toldStays();
+        toldOfLatest();
+        manyWarnings();
+        balances();
         stateArguments();
         Expect.finish();
     }
@@ -153,6 +156,9 @@ public final class ApplyTest {
         reckons("+ 1 * 2147483648 2147483648", large);
         reckons("- * -2147483648 2147483648 1", large);
         reckons("- * 2147483648 2147483648 1", LARGEST - 1);
+        reckons("- 0 * 2147483648 2147483648", -LARGEST);
+        reckons("- -1 * 2147483648 2147483648", large);
+        reckons("+ neg " + HALF + " neg " + HALF, -LARGEST);
         reckons("+ * 2147483648 2147483648 * 2147483648 2147483648", large);
         reckons("- * 2147483648 2147483648 * -2147483648 2147483648", large);
         reckons("- * -2147483648 2147483648 * 2147483648 2147483648", large);
@@ -560,6 +566,54 @@ public final class ApplyTest {
         Expect.noState("apply", () -> x.apply(0, 0));
         Expect.is("what throws leaves it", 4, () -> x.count(8));
         Expect.is("what throws leaves it", 1, () -> x.count(7));
+    }
+
+    private static void toldOfLatest() {
+        MarloweHost x = Expect.host("assert false pay a to b t 1 when [notify true assert false when [] 9 assert false close] 5 close");
+        x.apply(0, 0);
+        Expect.is("WARNINGS", 2, () -> x.count(7));
+        x.remind();
+        x.apply(0, 0);
+        Expect.is("WARNINGS of the latest one", 1, () -> x.count(7));
+        Expect.is("its NODE", 7, () -> x.told(1, 0));
+        Expect.noIndex("no second one", () -> x.told(0, 1));
+        x.apply(9, 9);
+        Expect.is("WARNINGS of the latest one", 1, () -> x.count(7));
+        Expect.is("its NODE", 10, () -> x.told(1, 0));
+    }
+
+    private static void manyWarnings() {
+        MarloweHost x = Expect.host("assert false ".repeat(99) + "close");
+        Expect.is("apply", 0, () -> x.apply(0, 0));
+        Expect.is("WARNINGS", 99, () -> x.count(7));
+        Expect.is("the NODE of the last one", 196, () -> x.told(1, 98));
+        // 16 deposits that are not above 0, and a WARNING behind each of them
+        MarloweHost y = Expect.host("when [deposit a b t 0 pay a to b t 0 ".repeat(16) + "close" + "] 9 close".repeat(16));
+        for (int i = 0; i < 16; i++) {
+            y.deposit(0, 1, 0, 0);
+        }
+        Expect.is("apply", 0, () -> y.apply(0, 0));
+        Expect.is("WARNINGS", 32, () -> y.count(7));
+        Expect.is("WARNING", 1, () -> y.told(0, 30));
+        Expect.is("WARNING", 2, () -> y.told(0, 31));
+        MarloweHost z = Expect.host("when [deposit a b t 90 " + "pay a to b t 1 ".repeat(88) + "close] 9 close");
+        z.wallet(1, 0, 90);
+        z.deposit(0, 1, 0, 90);
+        Expect.is("apply", 0, () -> z.apply(0, 0));
+        Expect.is("PAYMENTS", 89, () -> z.count(8));
+        Expect.is("the last one", 2, () -> z.paid(88));
+        Expect.is("WALLET of b", 88, () -> z.state(1, 1, 0));
+        Expect.is("WALLET of a", 2, () -> z.state(1, 0, 0));
+    }
+
+    private static void balances() {
+        MarloweHost x = filled("let x balance a t let y balance b u let z balance c u let w balance b t let v balance a u when [] 99 close");
+        Expect.is("apply", 0, () -> x.apply(0, 0));
+        long[] due = {5, 9, 7, 1, 0};
+        for (int i = 0; i < due.length; i++) {
+            int k = i;
+            Expect.is("balance " + k, due[k], () -> x.state(3, k, 0));
+        }
     }
 
     private static void stateArguments() {

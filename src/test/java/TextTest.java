@@ -6,6 +6,8 @@ public final class TextTest {
         feedOrder();
         endBounds();
         endStartsAnew();
+        namesStartAnew();
+        boundsStartAnew();
         wrongEndsContract();
         grammar();
         tokens();
@@ -15,6 +17,7 @@ public final class TextTest {
         bounds();
         nodesLimit();
         nestingLimit();
+        nestingOfEachPart();
         actionsLimit();
         numbering();
         Expect.finish();
@@ -111,6 +114,35 @@ public final class TextTest {
         Expect.is("q was not made", 5, () -> x.count(0));
     }
 
+    private static void namesStartAnew() {
+        MarloweHost x = new MarloweHost();
+        for (String prefix : new String[] {"a", "b", "c"}) {
+            StringBuilder text = new StringBuilder();
+            for (int i = 0; i < 8; i++) {
+                String name = prefix + i;
+                text.append("let ").append(name).append(" + balance ").append(name).append(' ').append(prefix).append(i % 4)
+                        .append(" chosen ").append(name).append(' ').append(name).append(' ');
+            }
+            Expect.same("end", "33", Expect.read(x, text + "close"));
+            Expect.is("PARTIES", 8, () -> x.count(2));
+            Expect.is("TOKENS", 4, () -> x.count(3));
+            Expect.is("CHOICES", 8, () -> x.count(4));
+            Expect.is("X", 8, () -> x.count(5));
+        }
+        Expect.read(x, "pay c5 to a c2 1 close");
+        Expect.is("PARTIES", 2, () -> x.count(2));
+        Expect.is("TOKENS", 1, () -> x.count(3));
+        Expect.is("CHOICES", 0, () -> x.count(4));
+        Expect.is("X", 0, () -> x.count(5));
+    }
+
+    private static void boundsStartAnew() {
+        MarloweHost x = new MarloweHost();
+        for (int pairs : new int[] {1700, 700}) {
+            Expect.same("end", "4", Expect.read(x, "when [choice q a [" + "1 1 ".repeat(pairs) + "] close] 1 close"));
+        }
+    }
+
     private static void wrongEndsContract() {
         MarloweHost x = Expect.host("when [] 5 close");
         x.wallet(3, 3, 8);
@@ -178,10 +210,34 @@ public final class TextTest {
         Expect.is("y", -12345678901234567L, () -> x.state(3, 1, 0));
         Expect.is("z", 7, () -> x.state(3, 2, 0));
         Expect.is("w", 0, () -> x.state(3, 3, 0));
+        for (char c = 'A'; c <= 'z'; c++) {
+            if (Character.isLetter(c)) {
+                Expect.nodes("let " + c + " 1 let a" + c + "0 1 let _" + c + "9_" + c + " 1 close", 7);
+            }
+        }
+        for (char c = '0'; c <= '9'; c++) {
+            Expect.nodes("let a" + c + " " + c + " close", 3);
+        }
+        endsInside("closed", 5, -1);
+        endsInside("close2", 5, -1);
+        endsInside("let x 12", 7, 7);
+        endsInside("let x -1", 7, 7);
+        endsInside("assert <=", 8, 8);
+        endsInside("assert <=", 9, 9);
+        endsInside("assert >=", 9, 9);
+        endsInside("pay  ", 4, 4);
         Expect.wrongAtBar("assert < |= 1 2 close");
         Expect.wrongAtBar("assert =|= 1 2 close");
         Expect.wrongAtBar("let x - |close");
         Expect.wrongAtBar("let x --1 |close");
+    }
+
+    /** THE TEXT is the first octets of what is fed, and no token reaches behind it. */
+    private static void endsInside(String fed, int octets, int wrong) {
+        MarloweHost x = new MarloweHost();
+        Expect.feed(x, fed);
+        Expect.same("end(" + octets + ") of " + fed, wrong < 0 ? "1" : "throws.IllegalArgumentException", Expect.answer(() -> x.end(octets)));
+        Expect.is("wrong()", wrong, x::wrong);
     }
 
     private static void wrongTokens() {
@@ -219,6 +275,8 @@ public final class TextTest {
             Expect.wrong(text, right ? 6 : 8);
         }
         Expect.wrong("close \t\r", 6);
+        Expect.wrong("\tclose", 0);
+        Expect.wrong("\u00e4", 0);
         Expect.nodes("close\n\n", 1);
         MarloweHost x = new MarloweHost();
         Expect.feed(x, "close\t");
@@ -244,6 +302,9 @@ public final class TextTest {
         counts(variables + "close", 0, 0, 0, 8);
         counts(parties + "pay p7 into p3 t 1 close", 8, 1, 0, 0);
         counts("let a balance a a let b chosen a a close", 1, 1, 1, 2);
+        counts("pay a to a\nt 1 pay a2 to b t 1 close", 3, 1, 0, 0);
+        counts("pay ab to ac t 1 pay abc to a t 1 pay aB to AB t1 1 close", 6, 2, 0, 0);
+        counts("when [choice q a[1 1]close choice q a [1 1] close choice a q[1 1] close] 1 close", 2, 0, 2, 0);
         Expect.wrongAtBar(parties + "pay |p8 to p0 t 1 close");
         Expect.wrongAtBar(parties + "pay p0 to |p8 t 1 close");
         Expect.wrongAtBar(parties + "let x balance |p8 t close");
@@ -312,6 +373,27 @@ public final class TextTest {
         // an A is no level of its own
         Expect.nodes("assert true ".repeat(98) + "when [deposit a b t 1 close] 1 close", 98 * 2 + 5);
         Expect.wrongAtBar("assert true ".repeat(99) + "when [deposit a b t |1 close] 1 close");
+    }
+
+    /** In each place where a C, V or O stands, it is one level below what it is in. */
+    private static void nestingOfEachPart() {
+        String[] places = {"C if :O", "C if true :C", "C if true close :C", "C assert :O", "C assert true :C", "C let x :V", "C let x 1 :C",
+            "C pay a to b t :V", "C pay a to b t 1 :C", "C when [deposit a b t :V", "C when [deposit a b t 1 :C", "C when [notify :O",
+            "C when [notify true :C", "C when [choice q a [1 1] :C", "C when [] 1 :C", "C (:C", "V neg :V", "V + :V", "V + 1 :V",
+            "V cond :O", "V cond true :V", "V cond true 1 :V", "V (:V", "O not :O", "O and :O", "O and true :O", "O or true :O",
+            "O < :V", "O < 1 :V", "O (:O"};
+        for (String place : places) {
+            char whole = place.charAt(0);
+            char part = place.charAt(place.length() - 1);
+            String before = whole == 'C' ? "when [] 1 ".repeat(98)
+                    : "when [] 1 ".repeat(97) + (whole == 'V' ? "let x " : "assert ");
+            String open = before + place.substring(2, place.indexOf(':'));
+            String leaf = part == 'C' ? "close" : part == 'V' ? "1" : "true";
+            String branch = part == 'C' ? "assert " : part == 'V' ? "neg " : "not ";
+            Expect.wrongAtBar(open + leaf + " |!");
+            Expect.wrongAtBar(open + branch + "|" + (part == 'V' ? "1" : "true"));
+            Expect.wrongAtBar(open + "(|" + leaf);
+        }
     }
 
     private static void actionsLimit() {

@@ -23,8 +23,12 @@ final class Expect {
         asked++;
         if (!due.equals(got)) {
             wrong++;
-            System.out.println(what + " answered " + got + ", due is " + due);
+            System.out.println(shortened(what) + " answered " + got + ", due is " + due);
         }
+    }
+
+    private static String shortened(String what) {
+        return what.length() <= 300 ? what : what.substring(0, 100) + " .. " + what.substring(what.length() - 190);
     }
 
     static void is(String what, long due, Call call) {
