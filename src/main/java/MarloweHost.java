@@ -82,7 +82,9 @@ public final class MarloweHost {
         scanner.fed = 0;
         inputs.size = 0;
         contracted = false;
-        reader.readText(n);
+        reader.begin(n);
+        reader.readContract(1);
+        reader.finish();
         contracted = true;
         present.begin();
         return tree.size;
@@ -263,13 +265,9 @@ public final class MarloweHost {
         return number >= 0 && number < TOKENS;
     }
 
-    private static boolean isBeyond(long value) {
-        return value > LARGEST || value < -LARGEST;
-    }
-
-    /** What was fed, four octets an element as they come, and the tokens in it. */
+    /** What was fed, and the tokens in it. */
     private static final class Scanner {
-        private final int[] fours = new int[MOST_FED / 4];
+        final byte[] octets = new byte[MOST_FED];
         int fed;
         int kind;
         int start;
@@ -278,34 +276,24 @@ public final class MarloweHost {
         private int limit;
 
         void addFour(int four) {
-            int place = fed / 4;
-            if (place >= 0 && place < fours.length) {
-                fours[place] = four;
-                fed += 4;
+            for (int shift = 24; shift >= 0 && fed >= 0 && fed < MOST_FED; shift -= 8) {
+                octets[fed] = (byte) (four >> shift);
+                fed++;
             }
         }
 
-        int octet(int at) {
-            int place = at / 4;
-            if (at < 0 || place >= fours.length) {
-                return 0;
-            }
-            return (fours[place] >>> (24 - 8 * (at % 4))) & 255;
-        }
-
-        /** The first octet that no text may have, or NONE. */
-        int forbidden(int octets) {
-            for (int at = 0; at < octets; at++) {
-                int octet = octet(at);
-                if (octet != 10 && (octet < 32 || octet > 126)) {
+        /** The first octet that no text may have, or NONE; one above 127 is below 0 as a byte. */
+        int forbidden(int size) {
+            for (int at = 0; at < size && at < MOST_FED; at++) {
+                if (octets[at] != '\n' && (octets[at] < 32 || octets[at] > 126)) {
                     return at;
                 }
             }
             return NONE;
         }
 
-        void begin(int octets) {
-            limit = octets;
+        void begin(int size) {
+            limit = Math.min(size, MOST_OCTETS);
             start = 0;
             length = 0;
             advance();
@@ -313,16 +301,17 @@ public final class MarloweHost {
 
         void advance() {
             int at = start + length;
-            while (at < limit && (octet(at) == ' ' || octet(at) == 10)) {
+            while (at < limit && (octets[at] == ' ' || octets[at] == '\n')) {
                 at++;
             }
             start = at;
             length = 0;
             if (at >= limit) {
                 kind = FINISH;
-            } else if (isLetter(octet(at))) {
+            } else if (isLetter(octets[at])) {
                 scanWord();
-            } else if (isDigit(at) || (octet(at) == '-' && isDigit(at + 1))) {
+                kind = keyOrName();
+            } else if (isDigit(at) || (octets[at] == '-' && isDigit(at + 1))) {
                 scanNumber();
             } else {
                 scanSign();
@@ -330,39 +319,37 @@ public final class MarloweHost {
         }
 
         private void scanWord() {
-            int at = start + 1;
-            while (at < limit && at < start + LONGEST_WORD && (isLetter(octet(at)) || isDigit(at))) {
+            int at = start;
+            while (at < limit && at < start + LONGEST_WORD && (isLetter(octets[at]) || isDigit(at))) {
                 at++;
             }
             length = at - start;
-            kind = NAME;
-            for (int key = 0; key < KEY_COUNT && kind == NAME; key++) {
-                if (isKey(key)) {
-                    kind = key;
-                }
-            }
         }
 
-        private boolean isKey(int key) {
-            int from = key * KEY_WIDTH;
-            if (length >= KEY_WIDTH || KEYS.charAt(from + length) != ' ') {
-                return false;
+        private int keyOrName() {
+            if (length >= KEY_WIDTH) {
+                return NAME;
             }
-            for (int i = 0; i < length; i++) {
-                if (KEYS.charAt(from + i) != octet(start + i)) {
-                    return false;
+            for (int key = 0; key < KEY_COUNT; key++) {
+                int from = key * KEY_WIDTH;
+                int same = 0;
+                while (same < length && KEYS.charAt(from + same) == octets[start + same]) {
+                    same++;
+                }
+                if (same == length && KEYS.charAt(from + length) == ' ') {
+                    return key;
                 }
             }
-            return true;
+            return NAME;
         }
 
         private void scanNumber() {
-            boolean negative = octet(start) == '-';
+            boolean negative = octets[start] == '-';
             int first = negative ? start + 1 : start;
             int at = first;
             long size = 0;
             while (at < first + MOST_DIGITS && isDigit(at)) {
-                size = size * 10 + (octet(at) - '0');
+                size = size * 10 + (octets[at] - '0');
                 at++;
             }
             length = at - start;
@@ -371,27 +358,21 @@ public final class MarloweHost {
         }
 
         private void scanSign() {
-            length = 1;
-            switch (octet(start)) {
-                case '(':
-                    kind = OPEN;
-                    break;
-                case ')':
-                    kind = SHUT;
-                    break;
-                case '[':
-                    kind = OPEN_LIST;
-                    break;
-                case ']':
-                    kind = SHUT_LIST;
-                    break;
-                default:
-                    kind = operator(octet(start));
-            }
+            boolean equalSign = start + 1 < limit && octets[start + 1] == '=';
+            kind = signOf(octets[start], equalSign);
+            length = kind == AT_MOST || kind == AT_LEAST ? 2 : 1;
         }
 
-        private int operator(int octet) {
+        private static int signOf(byte octet, boolean equalSign) {
             switch (octet) {
+                case '(':
+                    return OPEN;
+                case ')':
+                    return SHUT;
+                case '[':
+                    return OPEN_LIST;
+                case ']':
+                    return SHUT_LIST;
                 case '+':
                     return PLUS;
                 case '-':
@@ -401,9 +382,9 @@ public final class MarloweHost {
                 case '/':
                     return OVER;
                 case '<':
-                    return takeEqualSign() ? AT_MOST : BELOW;
+                    return equalSign ? AT_MOST : BELOW;
                 case '>':
-                    return takeEqualSign() ? AT_LEAST : ABOVE;
+                    return equalSign ? AT_LEAST : ABOVE;
                 case '=':
                     return EQUAL;
                 default:
@@ -411,33 +392,25 @@ public final class MarloweHost {
             }
         }
 
-        private boolean takeEqualSign() {
-            if (start + 1 < limit && octet(start + 1) == '=') {
-                length = 2;
-                return true;
-            }
-            return false;
-        }
-
         private boolean isDigit(int at) {
-            return at < limit && octet(at) >= '0' && octet(at) <= '9';
+            return at < limit && octets[at] >= '0' && octets[at] <= '9';
         }
 
-        private static boolean isLetter(int octet) {
+        private static boolean isLetter(byte octet) {
             return (octet >= 'a' && octet <= 'z') || (octet >= 'A' && octet <= 'Z') || octet == '_';
         }
     }
 
     /** The names of one kind, numbered; a name is where it first stands in the text. */
     private static final class Names {
-        private final Scanner scanner;
+        private final byte[] octets;
         private final int[] starts;
         private final int[] lengths;
         private final int[] owners;
         int size;
 
-        Names(Scanner scanner, int most) {
-            this.scanner = scanner;
+        Names(byte[] octets, int most) {
+            this.octets = octets;
             starts = new int[most];
             lengths = new int[most];
             owners = new int[most];
@@ -461,8 +434,8 @@ public final class MarloweHost {
         }
 
         private boolean isSame(int one, int other, int length) {
-            for (int i = 0; i < length; i++) {
-                if (scanner.octet(one + i) != scanner.octet(other + i)) {
+            for (int i = 0; i < length && one + i < octets.length && other + i < octets.length; i++) {
+                if (octets[one + i] != octets[other + i]) {
                     return false;
                 }
             }
@@ -472,7 +445,7 @@ public final class MarloweHost {
 
     /**
      * The NODES of a contract. What the links and names of a NODE mean, by its kind:
-     * pay: left V, right C, names P P T, fourth: into; if: left O, middle C, right C;
+     * pay: left V, right C, names P P T, into: to an ACCOUNT; if: left O, middle C, right C;
      * when: left the first A, right the last C, number N; let: left V, right C, name X;
      * assert: left O, right C; an A: left V or O, middle its C, right the next A;
      * deposit: names P P T; choice: name H, then from and behind which of the bounds;
@@ -535,7 +508,7 @@ public final class MarloweHost {
         }
 
         boolean isWithin(int choice, long number) {
-            for (int i = second[choice]; i + 1 < third[choice]; i += 2) {
+            for (int i = second[choice]; i >= 0 && i + 1 < third[choice]; i += 2) {
                 if (number >= bounds[i] && number <= bounds[i + 1]) {
                     return true;
                 }
@@ -546,7 +519,7 @@ public final class MarloweHost {
         /** How many numbers a choice's bounds have; beyond MOST_NUMBERS_TRIED just one more than that. */
         int numbersTried(int choice) {
             long sum = 0;
-            for (int i = second[choice]; i + 1 < third[choice] && sum <= MOST_NUMBERS_TRIED; i += 2) {
+            for (int i = second[choice]; i >= 0 && i + 1 < third[choice] && sum <= MOST_NUMBERS_TRIED; i += 2) {
                 sum += bounds[i + 1] - bounds[i] + 1;
             }
             return sum <= MOST_NUMBERS_TRIED ? (int) sum : MOST_NUMBERS_TRIED + 1;
@@ -554,7 +527,7 @@ public final class MarloweHost {
 
         long numberTried(int choice, int which) {
             long rest = which;
-            for (int i = second[choice]; i + 1 < third[choice]; i += 2) {
+            for (int i = second[choice]; i >= 0 && i + 1 < third[choice]; i += 2) {
                 long these = bounds[i + 1] - bounds[i] + 1;
                 if (rest < these) {
                     return bounds[i] + rest;
@@ -594,23 +567,26 @@ public final class MarloweHost {
         Reader(Scanner scanner, Tree tree) {
             this.scanner = scanner;
             this.tree = tree;
-            parties = new Names(scanner, PARTIES);
-            tokens = new Names(scanner, TOKENS);
-            choices = new Names(scanner, CHOICES);
-            variables = new Names(scanner, VARIABLES);
+            parties = new Names(scanner.octets, PARTIES);
+            tokens = new Names(scanner.octets, TOKENS);
+            choices = new Names(scanner.octets, CHOICES);
+            variables = new Names(scanner.octets, VARIABLES);
         }
 
-        void readText(int octets) {
+        /** Forgets the text before, and stands at the first token of the new one. */
+        void begin(int size) {
             wrongAt = NONE;
             tree.clear();
             parties.size = 0;
             tokens.size = 0;
             choices.size = 0;
             variables.size = 0;
-            int forbidden = scanner.forbidden(octets);
+            int forbidden = scanner.forbidden(size);
             requireAt(forbidden, forbidden == NONE);
-            scanner.begin(octets);
-            readContract(1);
+            scanner.begin(size);
+        }
+
+        void finish() {
             require(scanner.kind == FINISH);
         }
 
@@ -637,7 +613,7 @@ public final class MarloweHost {
             return node;
         }
 
-        private int readContract(int nested) {
+        int readContract(int nested) {
             require(nested <= MOST_NESTED);
             if (scanner.kind == OPEN) {
                 scanner.advance();
@@ -650,10 +626,18 @@ public final class MarloweHost {
             int node = beginNode();
             switch (kind) {
                 case PAY:
-                    readPay(node, nested);
+                    readPayNames(node);
+                    tree.left[node] = readValue(nested + 1);
                     break;
                 case WHEN:
-                    readWhen(node, nested);
+                    take(OPEN_LIST);
+                    int latest = NONE;
+                    for (int i = 0; i <= MOST_ACTIONS && scanner.kind != SHUT_LIST; i++) {
+                        require(i < MOST_ACTIONS);
+                        latest = readAction(node, latest, nested);
+                    }
+                    take(SHUT_LIST);
+                    tree.numbers[node] = readNumber();
                     break;
                 case LET:
                     tree.first[node] = readName(variables);
@@ -676,38 +660,25 @@ public final class MarloweHost {
             return node;
         }
 
-        private void readPay(int node, int nested) {
+        private void readPayNames(int node) {
             tree.first[node] = readName(parties);
             require(scanner.kind == TO || scanner.kind == INTO);
             tree.into[node] = scanner.kind == INTO;
             scanner.advance();
             tree.second[node] = readName(parties);
             tree.third[node] = readName(tokens);
-            tree.left[node] = readValue(nested + 1);
         }
 
-        private void readWhen(int node, int nested) {
-            take(OPEN_LIST);
-            int latest = NONE;
-            for (int i = 0; i <= MOST_ACTIONS && scanner.kind != SHUT_LIST; i++) {
-                require(i < MOST_ACTIONS);
-                int action = readAction(nested);
-                tree.middle[action] = readContract(nested + 1);
-                if (latest == NONE) {
-                    tree.left[node] = action;
-                } else {
-                    tree.right[latest] = action;
-                }
-                latest = action;
-            }
-            take(SHUT_LIST);
-            tree.numbers[node] = readNumber();
-        }
-
-        private int readAction(int nested) {
+        /** Reads an A with its C, and hangs it behind the latest one of its when. */
+        private int readAction(int when, int latest, int nested) {
             int kind = scanner.kind;
             require(kind == DEPOSIT || kind == CHOICE || kind == NOTIFY);
             int node = beginNode();
+            if (latest == NONE) {
+                tree.left[when] = node;
+            } else {
+                tree.right[latest] = node;
+            }
             if (kind == DEPOSIT) {
                 tree.first[node] = readName(parties);
                 tree.second[node] = readName(parties);
@@ -719,25 +690,21 @@ public final class MarloweHost {
             } else {
                 tree.left[node] = readTruth(nested + 1);
             }
+            tree.middle[node] = readContract(nested + 1);
             return node;
         }
 
         private void readBounds(int node) {
             take(OPEN_LIST);
             tree.second[node] = tree.boundCount;
-            readBoundPair();
-            for (int i = 0; i < MOST_BOUNDS && scanner.kind != SHUT_LIST; i++) {
-                readBoundPair();
+            for (int i = 0; i < MOST_BOUNDS && (i == 0 || scanner.kind != SHUT_LIST); i++) {
+                long low = readNumber();
+                require(scanner.kind == NUMBER && scanner.number >= low);
+                require(tree.addBounds(low, scanner.number));
+                scanner.advance();
             }
             take(SHUT_LIST);
             tree.third[node] = tree.boundCount;
-        }
-
-        private void readBoundPair() {
-            long low = readNumber();
-            require(scanner.kind == NUMBER && scanner.number >= low);
-            require(tree.addBounds(low, scanner.number));
-            scanner.advance();
         }
 
         private int readValue(int nested) {
@@ -866,12 +833,47 @@ public final class MarloweHost {
             return NONE;
         }
 
+        long balance(int party, int token) {
+            int cell = party * TOKENS + token;
+            return cell >= 0 && cell < CELLS ? accounts[cell] : 0;
+        }
+
+        /** Two amounts in bounds that wrap around give one below 0: the caller looks at what there is then. */
+        void addTo(int party, int token, long amount) {
+            int cell = party * TOKENS + token;
+            if (cell >= 0 && cell < CELLS) {
+                accounts[cell] += amount;
+            }
+        }
+
+        long chosenOf(int choice) {
+            return choice >= 0 && choice < CHOICES ? chosen[choice] : 0;
+        }
+
         boolean isMade(int choice) {
             return (chosenBits >> choice & 1) != 0;
         }
 
+        void setChosen(int choice, long number) {
+            if (choice >= 0 && choice < CHOICES) {
+                chosen[choice] = number;
+                chosenBits |= 1 << choice;
+            }
+        }
+
+        long usedOf(int variable) {
+            return variable >= 0 && variable < VARIABLES ? used[variable] : 0;
+        }
+
         boolean isUsed(int variable) {
             return (usedBits >> variable & 1) != 0;
+        }
+
+        void setUsed(int variable, long value) {
+            if (variable >= 0 && variable < VARIABLES) {
+                used[variable] = value;
+                usedBits |= 1 << variable;
+            }
         }
     }
 
@@ -984,41 +986,41 @@ public final class MarloweHost {
             large = false;
         }
 
-        long valueOf(int node) {
-            return value(node, 1);
-        }
-
-        boolean isTrue(int node) {
-            return truth(node, 1);
-        }
-
-        private long value(int node, int nested) {
+        long value(int node, int nested) {
             if (large || nested > MOST_NESTED || !tree.has(node)) {
                 return 0;
             }
+            int left = tree.left[node];
+            int right = tree.right[node];
             switch (tree.kinds[node]) {
                 case NUMBER:
                     return tree.numbers[node];
                 case BALANCE:
-                    return situation.accounts[tree.first[node] * TOKENS + tree.second[node]];
+                    return situation.balance(tree.first[node], tree.second[node]);
                 case CHOSEN:
-                    return situation.chosen[tree.first[node]];
+                    return situation.chosenOf(tree.first[node]);
                 case USE:
-                    return situation.used[tree.first[node]];
+                    return situation.usedOf(tree.first[node]);
                 case START:
                     return bounded(low);
                 case END:
                     return bounded(high);
                 case NEG:
-                    return -value(tree.left[node], nested + 1);
+                    return -value(left, nested + 1);
                 case COND:
-                    return value(truth(tree.left[node], nested + 1) ? tree.middle[node] : tree.right[node], nested + 1);
+                    return value(truth(left, nested + 1) ? tree.middle[node] : right, nested + 1);
+                case PLUS:
+                    return bounded(value(left, nested + 1) + value(right, nested + 1));
+                case MINUS:
+                    return bounded(value(left, nested + 1) - value(right, nested + 1));
+                case TIMES:
+                    return product(value(left, nested + 1), value(right, nested + 1));
                 default:
-                    return operate(tree.kinds[node], value(tree.left[node], nested + 1), value(tree.right[node], nested + 1));
+                    return quotient(value(left, nested + 1), value(right, nested + 1));
             }
         }
 
-        private boolean truth(int node, int nested) {
+        boolean truth(int node, int nested) {
             if (large || nested > MOST_NESTED || !tree.has(node)) {
                 return false;
             }
@@ -1058,17 +1060,8 @@ public final class MarloweHost {
             }
         }
 
-        private long operate(int kind, long a, long b) {
-            switch (kind) {
-                case PLUS:
-                    return bounded(a + b);
-                case MINUS:
-                    return bounded(a - b);
-                case TIMES:
-                    return product(a, b);
-                default:
-                    return b == 0 ? 0 : a / b;
-            }
+        private static long quotient(long a, long b) {
+            return b == 0 ? 0 : a / b;
         }
 
         private long product(long a, long b) {
@@ -1084,7 +1077,7 @@ public final class MarloweHost {
 
         /** A sum of two values in bounds that wraps around is Long.MIN_VALUE, which is beyond, too. */
         private long bounded(long value) {
-            if (isBeyond(value)) {
+            if (value > LARGEST || value < -LARGEST) {
                 large = true;
                 return 0;
             }
@@ -1115,26 +1108,11 @@ public final class MarloweHost {
             events.clear();
             error = to < from ? ERROR_INTERVAL : to < at.time ? ERROR_PAST : 0;
             if (error == 0) {
-                situation = at;
-                low = Math.max(from, at.time);
-                high = to;
-                situation.time = low;
-                runInside(inputs);
-            }
-            if (error != 0) {
-                events.clear();
-            }
-            return error;
-        }
-
-        private void runInside(Inputs inputs) {
-            reckoner.look(situation, low, high);
-            if (wallets != null) {
-                wallets.begin();
-            }
-            boolean reduced = reduce();
-            if (error == 0 && inputs.size == 0 && !reduced) {
-                error = ERROR_USELESS;
+                enter(at, Math.max(from, at.time), to);
+                boolean reduced = reduce();
+                if (error == 0 && inputs.size == 0 && !reduced) {
+                    error = ERROR_USELESS;
+                }
             }
             for (int i = 0; i < inputs.size && i < MOST_INPUTS && error == 0; i++) {
                 takeInput(inputs, i);
@@ -1142,6 +1120,21 @@ public final class MarloweHost {
             }
             if (error == 0 && wallets != null && !wallets.settle(events)) {
                 error = ERROR_LARGE;
+            }
+            if (error != 0) {
+                events.clear();
+            }
+            return error;
+        }
+
+        private void enter(Situation at, long from, long to) {
+            situation = at;
+            low = from;
+            high = to;
+            situation.time = low;
+            reckoner.look(situation, low, high);
+            if (wallets != null) {
+                wallets.begin();
             }
         }
 
@@ -1154,48 +1147,47 @@ public final class MarloweHost {
             return kind != WHEN || tree.numbers[at.node] <= at.time;
         }
 
+        /** REDUCES as long as can be, or to an ERROR; false if there was nothing to be done. */
         private boolean reduce() {
             boolean reduced = false;
             for (int i = 0; i < MOST_EVENTS && error == 0; i++) {
-                if (!reduceOnce()) {
+                int node = situation.node;
+                boolean done = true;
+                switch (tree.kindOf(node)) {
+                    case CLOSE:
+                        done = closeAccount();
+                        break;
+                    case PAY:
+                        pay(node);
+                        break;
+                    case IF:
+                        situation.node = reckoner.truth(tree.left[node], 1) ? tree.middle[node] : tree.right[node];
+                        break;
+                    case WHEN:
+                        done = passTime(node);
+                        break;
+                    case LET:
+                        let(node);
+                        break;
+                    case ASSERT:
+                        if (!reckoner.truth(tree.left[node], 1)) {
+                            events.warn(WARNING_ASSERT, node);
+                        }
+                        situation.node = tree.right[node];
+                        break;
+                    default:
+                        done = false;
+                        break;
+                }
+                if (reckoner.large) {
+                    error = ERROR_LARGE;
+                }
+                if (!done) {
                     return reduced;
                 }
                 reduced = true;
             }
             return reduced;
-        }
-
-        /** One step of REDUCING; false if the contract stays or there is an ERROR. */
-        private boolean reduceOnce() {
-            int node = situation.node;
-            switch (tree.kindOf(node)) {
-                case CLOSE:
-                    return closeAccount();
-                case PAY:
-                    pay(node);
-                    break;
-                case IF:
-                    boolean first = reckoner.isTrue(tree.left[node]);
-                    situation.node = first ? tree.middle[node] : tree.right[node];
-                    break;
-                case WHEN:
-                    return passTime(node);
-                case LET:
-                    let(node);
-                    break;
-                case ASSERT:
-                    if (!reckoner.isTrue(tree.left[node])) {
-                        events.warn(WARNING_ASSERT, node);
-                    }
-                    situation.node = tree.right[node];
-                    break;
-                default:
-                    return false;
-            }
-            if (reckoner.large) {
-                error = ERROR_LARGE;
-            }
-            return error == 0;
         }
 
         private boolean closeAccount() {
@@ -1210,7 +1202,7 @@ public final class MarloweHost {
         }
 
         private void pay(int node) {
-            long due = reckoner.valueOf(tree.left[node]);
+            long due = reckoner.value(tree.left[node], 1);
             int from = tree.first[node];
             int to = tree.second[node];
             int token = tree.third[node];
@@ -1219,9 +1211,8 @@ public final class MarloweHost {
                 events.warn(WARNING_PAY, node);
                 return;
             }
-            int cell = from * TOKENS + token;
-            long amount = Math.min(due, situation.accounts[cell]);
-            situation.accounts[cell] -= amount;
+            long amount = Math.min(due, situation.balance(from, token));
+            situation.addTo(from, token, -amount);
             if (amount < due) {
                 events.warn(WARNING_PARTLY, node);
             }
@@ -1233,10 +1224,9 @@ public final class MarloweHost {
         }
 
         private void fill(int party, int token, long amount) {
-            int cell = party * TOKENS + token;
-            situation.accounts[cell] += amount;
-            // Two amounts in bounds that wrap around are Long.MIN_VALUE, which is beyond, too.
-            if (isBeyond(situation.accounts[cell])) {
+            situation.addTo(party, token, amount);
+            long there = situation.balance(party, token);
+            if (there > LARGEST || there < 0) {
                 error = ERROR_LARGE;
             }
         }
@@ -1256,12 +1246,11 @@ public final class MarloweHost {
 
         private void let(int node) {
             int variable = tree.first[node];
-            long value = reckoner.valueOf(tree.left[node]);
+            long value = reckoner.value(tree.left[node], 1);
             if (situation.isUsed(variable)) {
                 events.warn(WARNING_USED, node);
             }
-            situation.used[variable] = value;
-            situation.usedBits |= 1 << variable;
+            situation.setUsed(variable, value);
             situation.node = tree.right[node];
         }
 
@@ -1289,7 +1278,7 @@ public final class MarloweHost {
                 return false;
             }
             if (kind == NOTIFY) {
-                return reckoner.isTrue(tree.left[action]);
+                return reckoner.truth(tree.left[action], 1);
             }
             if (tree.first[action] != inputs.first[input]) {
                 return false;
@@ -1299,14 +1288,13 @@ public final class MarloweHost {
                 return tree.isWithin(action, amount);
             }
             return tree.second[action] == inputs.second[input] && tree.third[action] == inputs.third[input]
-                    && reckoner.valueOf(tree.left[action]) == amount;
+                    && reckoner.value(tree.left[action], 1) == amount;
         }
 
         private void accept(int action, long amount) {
             int kind = tree.kinds[action];
             if (kind == CHOICE) {
-                situation.chosen[tree.first[action]] = amount;
-                situation.chosenBits |= 1 << tree.first[action];
+                situation.setChosen(tree.first[action], amount);
             } else if (kind == DEPOSIT && amount <= 0) {
                 events.warn(WARNING_DEPOSIT, action);
             } else if (kind == DEPOSIT) {
@@ -1419,9 +1407,9 @@ public final class MarloweHost {
             nextNumber[level] = 0;
             nextAction[level] = tree.right[action];
             if (kind == DEPOSIT) {
-                return setStep(level, STEP_DEPOSIT, reckoner.valueOf(tree.left[action]), action);
+                return setStep(level, STEP_DEPOSIT, reckoner.value(tree.left[action], 1), action);
             }
-            if (kind == NOTIFY && (reckoner.isTrue(tree.left[action]) || reckoner.large)) {
+            if (kind == NOTIFY && (reckoner.truth(tree.left[action], 1) || reckoner.large)) {
                 return setStep(level, STEP_NOTIFY, 0, action);
             }
             return false;

@@ -88,6 +88,7 @@ public final class AnalyseTest {
         MarloweHost x = analysed(text, MarloweHost.FOUND, 2 + 6 + 2, 2);
         stepIs(x, 0, 2, -1, 6);
         stepIs(x, 1, 3, 0, 8);
+        stepIs(analysed("when [" + "notify false close ".repeat(7) + "notify true assert false close] 9 close", MarloweHost.FOUND, 1, 1), 0, 3, 0, 22);
     }
 
     private static void timeStep() {

@@ -366,6 +366,10 @@ public final class ApplyTest {
         x.remind();
         Expect.is("apply", 0, () -> x.apply(0, 0));
         Expect.is("NODE", 9, () -> x.count(0));
+        MarloweHost y = Expect.host("when [" + "notify false close ".repeat(7) + "notify true when [] 90 close] 9 close");
+        y.remind();
+        Expect.is("apply, the eighth A", 0, () -> y.apply(0, 0));
+        Expect.is("NODE", 24, () -> y.count(0));
     }
 
     private static void depositWarning() {
