@@ -838,12 +838,14 @@ public final class MarloweHost {
             return cell >= 0 && cell < CELLS ? accounts[cell] : 0;
         }
 
-        /** Two amounts in bounds that wrap around give one below 0: the caller looks at what there is then. */
-        void addTo(int party, int token, long amount) {
+        /** False: the ACCOUNT is LARGE now. Two amounts in bounds that wrap around give one below 0. */
+        boolean addTo(int party, int token, long amount) {
             int cell = party * TOKENS + token;
-            if (cell >= 0 && cell < CELLS) {
-                accounts[cell] += amount;
+            if (cell < 0 || cell >= CELLS) {
+                return true;
             }
+            accounts[cell] += amount;
+            return accounts[cell] >= 0 && accounts[cell] <= LARGEST;
         }
 
         long chosenOf(int choice) {
@@ -1216,17 +1218,9 @@ public final class MarloweHost {
             if (amount < due) {
                 events.warn(WARNING_PARTLY, node);
             }
-            if (tree.into[node]) {
-                fill(to, token, amount);
-            } else if (amount != 0) {
+            if (!tree.into[node] && amount != 0) {
                 events.pay(from, to, token, amount);
-            }
-        }
-
-        private void fill(int party, int token, long amount) {
-            situation.addTo(party, token, amount);
-            long there = situation.balance(party, token);
-            if (there > LARGEST || there < 0) {
+            } else if (tree.into[node] && !situation.addTo(to, token, amount)) {
                 error = ERROR_LARGE;
             }
         }
@@ -1307,9 +1301,9 @@ public final class MarloweHost {
             int token = tree.third[action];
             if (wallets != null && !wallets.take(tree.second[action], token, amount)) {
                 error = ERROR_WALLET;
-                return;
+            } else if (!situation.addTo(tree.first[action], token, amount)) {
+                error = ERROR_LARGE;
             }
-            fill(tree.first[action], token, amount);
         }
     }
 

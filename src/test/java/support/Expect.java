@@ -6,6 +6,7 @@ final class Expect {
 
     private static int asked = 0;
     private static int wrong = 0;
+    private static String sentence = "";
 
     private Expect() {
     }
@@ -19,11 +20,16 @@ final class Expect {
         }
     }
 
+    /** The words of the document that the next answers are held against; they are told with an answer that is not as due. */
+    static void sentence(String words) {
+        sentence = "[" + words + "] ";
+    }
+
     static void same(String what, String due, String got) {
         asked++;
         if (!due.equals(got)) {
             wrong++;
-            System.out.println(shortened(what) + " answered " + got + ", due is " + due);
+            System.out.println(sentence + shortened(what) + " answered " + got + ", due is " + due);
         }
     }
 
