@@ -209,6 +209,10 @@ public final class AnalyserEdgesTest {
         }
         MarloweHost x = found("when [" + "notify false close ".repeat(6) + "deposit a b t 1 close deposit a c t 1 assert false close] 9 close", 2, 1);
         step(x, 0, 1, 1, 22);
+        // the eighth A alone, and eight that are not tried
+        step(found("when [" + "notify false close ".repeat(7) + "notify true assert false close] 9 close", 1, 1), 0, 3, 0, 22);
+        step(found("when [" + "notify false close ".repeat(8) + "] 9 assert false close", 1, 1), 0, 4, 9, -1);
+        clean("when [" + "choice q a [1 16] close ".repeat(8) + "] 9 close", 8 * 16 + 1);
     }
 
     private static void depositOfValue() {

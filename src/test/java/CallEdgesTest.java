@@ -115,7 +115,8 @@ public final class CallEdgesTest {
     }
 
     private static void feedRefused() {
-        Expect.sentence("feed: IndexOutOfBoundsException .. nothing of it comes to what is fed");
+        Expect.sentence("feed: IndexOutOfBoundsException: there would be more than 8,200");
+        // nothing of a refused feed comes to what is fed
         MarloweHost x = new MarloweHost();
         Expect.feed(x, "let x 7 close" + " ".repeat(8187));
         Expect.noIndex("feed 411", () -> x.feed(0x6c657420, 0, 0, 0, 0));
@@ -134,9 +135,23 @@ public final class CallEdgesTest {
             Expect.same("end(" + n + ")", wrong[n] < 0 ? "3" : "throws.IllegalArgumentException", Expect.answer(() -> x.end(n)));
             Expect.is("wrong() of end(" + n + ")", wrong[n], x::wrong);
         }
+        // no TOKEN reaches behind THE TEXT
+        endsInside("closed", 5, -1);
+        endsInside("close2", 5, -1);
+        endsInside("let x 12", 7, 7);
+        endsInside("let x -1", 7, 7);
+        endsInside("assert <=", 8, 8);
+        endsInside("assert <=", 9, 9);
         MarloweHost y = new MarloweHost();
         Expect.feed(y, " ".repeat(15) + "close");
         Expect.is("end of all that was fed", 1, () -> y.end(20));
+    }
+
+    private static void endsInside(String fed, int octets, int wrong) {
+        MarloweHost x = new MarloweHost();
+        Expect.feed(x, fed);
+        Expect.same("end(" + octets + ") of " + fed, wrong < 0 ? "1" : "throws.IllegalArgumentException", Expect.answer(() -> x.end(octets)));
+        Expect.is("wrong() of it", wrong, x::wrong);
     }
 
     private static void endEmptiesFed() {
@@ -624,6 +639,12 @@ public final class CallEdgesTest {
         Expect.is("INPUTS", 16, () -> x.count(6));
         Expect.is("the STATE stays", 0, () -> x.count(0));
         Expect.is("once more", 1, x::analyse);
+        MarloweHost y = Expect.host("when [choice q a [1 4] assert < chosen q a 3 close] 9 close");
+        for (int i = 0; i < 3; i++) {
+            Expect.is("each time the same", 1, y::analyse);
+            Expect.is("each time the same", 3, () -> y.step(0, 1));
+            Expect.is("each time the same", 3, () -> y.count(9));
+        }
         Expect.read(x, "let x start close");
         Expect.is("end() leaves the STEPS looked at", 1, () -> x.count(9));
         Expect.is("end() leaves those FOUND", 1, () -> x.count(10));

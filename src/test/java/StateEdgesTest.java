@@ -24,6 +24,7 @@ public final class StateEdgesTest {
         andOrReckonBoth();
         madeOfNought();
         closeInOrder();
+        closeOfAll();
         closeOfNothing();
         payNotAboveNought();
         payLessThanDue();
@@ -388,6 +389,40 @@ public final class StateEdgesTest {
         Expect.is("ACCOUNT of the last one", 0, () -> x.state(0, 7, 3));
     }
 
+    /** All 32 ACCOUNTS have something; it takes two TRANSACTIONS of 16 INPUTS. */
+    private static void closeOfAll() {
+        Expect.sentence("REDUCING .. as long as can be: close: the first ACCOUNT (by PARTY, then TOKEN) that has something");
+        StringBuilder text = new StringBuilder();
+        for (int cell = 0; cell < 32; cell++) {
+            text.append("when [deposit p").append(cell / 4).append(" p").append((cell / 4 + 1) % 8).append(" t").append(cell % 4).append(' ')
+                    .append(cell + 1).append(' ');
+        }
+        text.append("when [notify true ").append("let x 1 ".repeat(60)).append("close] 90 close").append("] 90 close".repeat(32));
+        MarloweHost x = Expect.host(text.toString());
+        // PARTIES are numbered p0, p1, .., as each one deposits for the one before it
+        for (int cell = 0; cell < 32; cell++) {
+            x.wallet((cell / 4 + 1) % 8, cell % 4, cell + 1);
+            x.deposit(cell / 4, (cell / 4 + 1) % 8, cell % 4, cell + 1);
+            if (cell % 16 == 15) {
+                Expect.is("apply", 0, () -> x.apply(0, 0));
+            }
+        }
+        for (int cell = 0; cell < 32; cell++) {
+            int k = cell;
+            Expect.is("ACCOUNT", k + 1, () -> x.state(0, k / 4, k % 4));
+            Expect.is("WALLET", 0, () -> x.state(1, k / 4, k % 4));
+        }
+        x.remind();
+        Expect.is("apply", 0, () -> x.apply(0, 0));
+        counted(x, 59, 32);
+        for (int cell = 0; cell < 32; cell++) {
+            int k = cell;
+            payment(x, k, k / 4, k / 4, k % 4, k + 1);
+            Expect.is("ACCOUNT", 0, () -> x.state(0, k / 4, k % 4));
+            Expect.is("WALLET", k + 1, () -> x.state(1, k / 4, k % 4));
+        }
+    }
+
     private static void closeOfNothing() {
         Expect.sentence("close: .. if there is none it stays");
         MarloweHost x = Expect.host("close");
@@ -465,6 +500,9 @@ public final class StateEdgesTest {
         Expect.is("ACCOUNT of a", 0, () -> x.state(0, 0, 0));
         Expect.is("ACCOUNT of c", 5, () -> x.state(0, 2, 0));
         Expect.is("WALLET of c", 0, () -> x.state(1, 2, 0));
+        MarloweHost y = five("pay c into d t 1 pay c into c t 1 when [] 99 close");
+        counted(y, 2, 0);
+        Expect.is("ACCOUNT of d", 0, () -> y.state(0, 3, 0));
     }
 
     private static void ifs() {
@@ -783,6 +821,11 @@ public final class StateEdgesTest {
         MarloweHost z = Expect.host("when [deposit a b t -5 close] 60 close");
         z.deposit(0, 1, 0, -5);
         Expect.is("a deposit below 0 needs no WALLET", 0, () -> z.apply(0, 0));
+        MarloweHost w = Expect.host("when [deposit a b t -5 when [deposit a b t 4 close] 90 close] 60 close");
+        w.wallet(1, 0, 3);
+        w.deposit(0, 1, 0, -5);
+        w.deposit(0, 1, 0, 4);
+        Expect.is("a deposit below 0 gives nothing", 7, () -> w.apply(0, 0));
     }
 
     private static void poorBeforeLarge() {
@@ -845,6 +888,17 @@ public final class StateEdgesTest {
         z.deposit(0, 1, 0, LARGEST);
         Expect.is("all of it and back", 0, () -> z.apply(0, 0));
         Expect.is("WALLET", LARGEST, () -> z.state(1, 1, 0));
+        // .. also where the PAYMENT was before the deposit
+        MarloweHost w = rich();
+        Expect.read(w, "if false pay a to b t 1 close when [deposit a c t 1 pay a to b t 1 when [deposit a b t 1 when [] 99 close] 90 close] 80 close");
+        w.wallet(2, 0, 1);
+        w.deposit(0, 2, 0, 1);
+        Expect.is("2 ** 62 + 1", 6, () -> w.apply(0, 0));
+        w.deposit(0, 2, 0, 1);
+        w.deposit(0, 1, 0, 1);
+        Expect.is("2 ** 62 + 1 - 1", 0, () -> w.apply(0, 0));
+        Expect.is("WALLET", LARGEST, () -> w.state(1, 1, 0));
+        Expect.is("ACCOUNT", 1, () -> w.state(0, 0, 0));
     }
 
     private static void errorChangesNothing() {

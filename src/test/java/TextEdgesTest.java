@@ -17,6 +17,7 @@ public final class TextEdgesTest {
         signs();
         noTokens();
         firstWrongToken();
+        eachTokenInEachPlace();
         wrongEnd();
         keysAreNoNames();
         otherWordsAreNames();
@@ -36,6 +37,8 @@ public final class TextEdgesTest {
         nextNodeInBrackets();
         nextLevel();
         levelsInWhen();
+        levelsOfEachPart();
+        deepestIsReckoned();
         nextAction();
         Expect.finish();
     }
@@ -240,6 +243,39 @@ public final class TextEdgesTest {
         Expect.wrongAtBar("let x |true let true 1 close close");
     }
 
+    /** What may stand behind a beginning; it is WRONG at the end then, and at the TOKEN if that can not stand. */
+    private static void eachTokenInEachPlace() {
+        Expect.sentence("WRONG is the first TOKEN that can not stand where it is: the grammar");
+        String contract = " close pay if when let assert ( ";
+        String value = " 1 balance neg + - * / chosen use start end cond ( ";
+        String truth = " true false and or not made >= > < <= = ( ";
+        String[][] places = {{"", contract}, {"(", contract}, {"let x 1 ", contract}, {"pay a to b t 1 ", contract}, {"if true ", contract},
+            {"if true close ", contract}, {"assert true ", contract}, {"when [] 1 ", contract}, {"when [notify true ", contract},
+            {"when [deposit a b t 1 ", contract}, {"when [choice q a [1 2] ", contract},
+            {"let x ", value}, {"let x (", value}, {"let x neg ", value}, {"let x + ", value}, {"let x - 1 ", value}, {"let x cond true ", value},
+            {"let x cond true 1 ", value}, {"pay a to b t ", value}, {"when [deposit a b t ", value}, {"assert = ", value}, {"assert >= 1 ", value},
+            {"assert ", truth}, {"assert (", truth}, {"assert not ", truth}, {"assert and ", truth}, {"assert or true ", truth}, {"if ", truth},
+            {"when [notify ", truth}, {"let x cond ", truth},
+            {"pay ", " a "}, {"pay a to ", " a "}, {"pay a into ", " a "}, {"pay a to b ", " a "}, {"let ", " a "}, {"let x use ", " a "},
+            {"let x balance ", " a "}, {"let x balance a ", " a "}, {"let x chosen ", " a "}, {"let x chosen q ", " a "}, {"assert made ", " a "},
+            {"assert made q ", " a "}, {"when [choice ", " a "}, {"when [choice q ", " a "}, {"when [deposit ", " a "}, {"when [deposit a ", " a "},
+            {"when [deposit a b ", " a "}, {"pay a ", " to into "}, {"when ", " [ "}, {"when [", " deposit choice notify ] "},
+            {"when [notify true close ", " deposit choice notify ] "}, {"when [] ", " 1 "}, {"when [choice q a ", " [ "}, {"when [choice q a [", " 1 "},
+            {"when [choice q a [1 ", " 1 "}, {"when [choice q a [1 2 ", " 1 ] "}, {"when [choice q a [1 2 3 ", " 4 "}, {"close ", " "},
+            {"(close ", " ) "}, {"let x (1 ", " ) "}, {"assert (true ", " ) "}, {"(close) ", " "}};
+        String[] tokens = (KEYS + " ( ) [ ] + - * / < <= > >= = 1 4 a ! ~").split(" ");
+        for (String[] place : places) {
+            for (String token : tokens) {
+                boolean number = token.equals("1") || token.equals("4");
+                boolean due = place[1].contains(" " + token + " ") || (number && place[1].contains(" 1 "));
+                String text = place[0] + token;
+                MarloweHost x = new MarloweHost();
+                boolean whole = Expect.read(x, text).matches("[0-9]+");
+                Expect.is("wrong() of " + text, whole && due ? -1 : due ? text.length() : place[0].length(), x::wrong);
+            }
+        }
+    }
+
     private static void wrongEnd() {
         Expect.sentence("WRONG is .. (the end: how many octets)");
         String[] texts = {"", " ", "\n", "pay", "pay a", "pay a to", "pay a to b", "pay a to b t", "pay a to b t 1", "if", "if true",
@@ -287,6 +323,11 @@ public final class TextEdgesTest {
         Expect.wrongAtBar("when [choice q a [1 |] close] 1 close");
         Expect.wrongAtBar("when [choice q a [1 2 3 |] close] 1 close");
         Expect.wrongAtBar("when [notify true |] 1 close");
+        // as many bounds as THE TEXT can hold, and of two TEXTS behind one another
+        MarloweHost x = new MarloweHost();
+        for (int pairs : new int[] {2040, 2039, 2040}) {
+            Expect.same("end", "4", Expect.read(x, "when[choice q a[" + "1 1 ".repeat(pairs) + "]close]1 close"));
+        }
     }
 
     private static void counts(String text, int parties, int tokens, int choices, int variables) {
@@ -338,7 +379,13 @@ public final class TextEdgesTest {
         MarloweHost z = new MarloweHost();
         Expect.read(z, names("a", 8) + "let |");
         Expect.same("numbers of a WRONG TEXT do not count", "33", Expect.read(z, names("b", 8) + "close"));
-        Expect.same("numbers of the TEXT before do not count", "33", Expect.read(z, names("c", 8) + "close"));
+        Expect.same("numbers of the TEXT before do not count", "33", Expect.read(z, names("ccc", 8) + "close"));
+        Expect.read(z, "pay c5 to a c2 1 close");
+        int[] due = {2, 1, 0, 0};
+        for (int i = 0; i < due.length; i++) {
+            int k = i;
+            Expect.is("count(" + (2 + k) + ")", due[k], () -> z.count(2 + k));
+        }
     }
 
     private static void ninthParty() {
@@ -536,6 +583,50 @@ public final class TextEdgesTest {
         Expect.wrongAtBar("when [] 1 ".repeat(99) + "when [deposit a b t |1 close] 1 close");
         Expect.wrongAtBar("when [] 1 ".repeat(99) + "when [choice q a [1 2] |close] 1 close");
         Expect.wrongAtBar("when [] 1 ".repeat(99) + "when [] 1 |close");
+    }
+
+    /** In each place where a C, V or O stands, it is one level below what it is in. */
+    private static void levelsOfEachPart() {
+        Expect.sentence("at most 100 of C, V, O, ( in one another (the next one is WRONG)");
+        String[] places = {"C if :O", "C if true :C", "C if true close :C", "C assert :O", "C assert true :C", "C let x :V", "C let x 1 :C",
+            "C pay a to b t :V", "C pay a to b t 1 :C", "C when [deposit a b t :V", "C when [deposit a b t 1 :C", "C when [notify :O",
+            "C when [notify true :C", "C when [choice q a [1 1] :C", "C when [] 1 :C", "C (:C", "V neg :V", "V + :V", "V + 1 :V",
+            "V cond :O", "V cond true :V", "V cond true 1 :V", "V (:V", "O not :O", "O and :O", "O and true :O", "O or true :O",
+            "O < :V", "O < 1 :V", "O (:O"};
+        for (String place : places) {
+            char whole = place.charAt(0);
+            char part = place.charAt(place.length() - 1);
+            // what is in the place is level 100
+            String before = whole == 'C' ? "when [] 1 ".repeat(98)
+                    : "when [] 1 ".repeat(97) + (whole == 'V' ? "let x " : "assert ");
+            String open = before + place.substring(2, place.indexOf(':'));
+            String leaf = part == 'C' ? "close" : part == 'V' ? "1" : "true";
+            String branch = part == 'C' ? "assert " : part == 'V' ? "neg " : "not ";
+            Expect.wrongAtBar(open + leaf + " |!");
+            Expect.wrongAtBar(open + branch + "|" + (part == 'V' ? "1" : "true"));
+            Expect.wrongAtBar(open + "(|" + leaf);
+        }
+    }
+
+    private static void deepestIsReckoned() {
+        Expect.sentence("at most 100 of C, V, O, ( in one another");
+        reckons("neg ".repeat(98) + "5", "", 5);
+        reckons("neg ".repeat(97) + "5", "", -5);
+        reckons("+ 1 ".repeat(98) + "5", "", 103);
+        reckons("cond " + "not ".repeat(97) + "true 1 2", "", 2);
+        MarloweHost x = Expect.host("assert " + "not ".repeat(97) + "true close");
+        Expect.is("apply", 0, () -> x.apply(0, 0));
+        Expect.is("WARNINGS", 1, () -> x.count(7));
+        MarloweHost y = Expect.host("assert false ".repeat(99) + "close");
+        Expect.is("apply", 0, () -> y.apply(0, 0));
+        Expect.is("WARNINGS", 99, () -> y.count(7));
+        Expect.is("NODE", 198, () -> y.count(0));
+        MarloweHost z = Expect.host("when [notify true ".repeat(99) + "close" + "] 1 close".repeat(99));
+        for (int i = 0; i < 16; i++) {
+            z.remind();
+        }
+        Expect.is("apply", 0, () -> z.apply(0, 0));
+        Expect.is("NODE", 48, () -> z.count(0));
     }
 
     private static void nextAction() {

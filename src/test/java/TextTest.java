@@ -17,7 +17,6 @@ public final class TextTest {
         bounds();
         nodesLimit();
         nestingLimit();
-        nestingOfEachPart();
         actionsLimit();
         numbering();
         Expect.finish();
@@ -373,27 +372,6 @@ public final class TextTest {
         // an A is no level of its own
         Expect.nodes("assert true ".repeat(98) + "when [deposit a b t 1 close] 1 close", 98 * 2 + 5);
         Expect.wrongAtBar("assert true ".repeat(99) + "when [deposit a b t |1 close] 1 close");
-    }
-
-    /** In each place where a C, V or O stands, it is one level below what it is in. */
-    private static void nestingOfEachPart() {
-        String[] places = {"C if :O", "C if true :C", "C if true close :C", "C assert :O", "C assert true :C", "C let x :V", "C let x 1 :C",
-            "C pay a to b t :V", "C pay a to b t 1 :C", "C when [deposit a b t :V", "C when [deposit a b t 1 :C", "C when [notify :O",
-            "C when [notify true :C", "C when [choice q a [1 1] :C", "C when [] 1 :C", "C (:C", "V neg :V", "V + :V", "V + 1 :V",
-            "V cond :O", "V cond true :V", "V cond true 1 :V", "V (:V", "O not :O", "O and :O", "O and true :O", "O or true :O",
-            "O < :V", "O < 1 :V", "O (:O"};
-        for (String place : places) {
-            char whole = place.charAt(0);
-            char part = place.charAt(place.length() - 1);
-            String before = whole == 'C' ? "when [] 1 ".repeat(98)
-                    : "when [] 1 ".repeat(97) + (whole == 'V' ? "let x " : "assert ");
-            String open = before + place.substring(2, place.indexOf(':'));
-            String leaf = part == 'C' ? "close" : part == 'V' ? "1" : "true";
-            String branch = part == 'C' ? "assert " : part == 'V' ? "neg " : "not ";
-            Expect.wrongAtBar(open + leaf + " |!");
-            Expect.wrongAtBar(open + branch + "|" + (part == 'V' ? "1" : "true"));
-            Expect.wrongAtBar(open + "(|" + leaf);
-        }
     }
 
     private static void actionsLimit() {
