@@ -610,13 +610,22 @@ public final class TextEdgesTest {
 
     private static void deepestIsReckoned() {
         Expect.sentence("at most 100 of C, V, O, ( in one another");
-        reckons("neg ".repeat(98) + "5", "", 5);
-        reckons("neg ".repeat(97) + "5", "", -5);
-        reckons("+ 1 ".repeat(98) + "5", "", 103);
-        reckons("cond " + "not ".repeat(97) + "true 1 2", "", 2);
-        MarloweHost x = Expect.host("assert " + "not ".repeat(97) + "true close");
-        Expect.is("apply", 0, () -> x.apply(0, 0));
-        Expect.is("WARNINGS", 1, () -> x.count(7));
+        // what stands round a value that stays the same by it, or by two of it; how many levels it takes
+        String[][] values = {{"+ 0 ", "", "1"}, {"+ ", "0 ", "1"}, {"- 0 ", "", "1"}, {"- ", "0 ", "1"}, {"* 1 ", "", "1"}, {"* ", "1 ", "1"},
+            {"/ ", "1 ", "1"}, {"/ 5 ", "", "1"}, {"neg ", "", "1"}, {"(", ") ", "1"}, {"cond true ", "0 ", "1"}, {"cond false 0 ", "", "1"},
+            {"cond = 5 ", "5 0 ", "2"}, {"cond = ", "5 5 0 ", "2"}, {"cond not > 6 ", "4 5 ", "3"}};
+        for (String[] round : values) {
+            int times = 98 / Integer.parseInt(round[2]);
+            reckons(round[0].repeat(times) + "5 " + round[1].repeat(times), "", 5);
+        }
+        String[][] truths = {{"and true ", ""}, {"and ", "true "}, {"or false ", ""}, {"or ", "false "}, {"not ", ""}, {"(", ") "}};
+        for (String[] round : truths) {
+            for (String inner : new String[] {"true ", "false "}) {
+                MarloweHost x = Expect.host("assert " + round[0].repeat(98) + inner + round[1].repeat(98) + "close");
+                Expect.is("apply of " + round[0] + inner, 0, () -> x.apply(0, 0));
+                Expect.is("WARNINGS of " + round[0] + inner, inner.equals("true ") ? 0 : 1, () -> x.count(7));
+            }
+        }
         MarloweHost y = Expect.host("assert false ".repeat(99) + "close");
         Expect.is("apply", 0, () -> y.apply(0, 0));
         Expect.is("WARNINGS", 99, () -> y.count(7));
