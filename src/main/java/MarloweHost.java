@@ -416,14 +416,23 @@ public final class MarloweHost {
             owners = new int[most];
         }
 
-        /** The number of a name (of a choice: with its owner), a new one if need be; NONE: no room. */
-        int numberOf(int start, int length, int owner) {
+        /** The number of a name (of a choice: with its owner), or NONE. */
+        int find(int start, int length, int owner) {
             for (int i = 0; i < size; i++) {
                 if (owners[i] == owner && lengths[i] == length && isSame(starts[i], start, length)) {
                     return i;
                 }
             }
-            if (size >= starts.length) {
+            return NONE;
+        }
+
+        boolean hasRoom() {
+            return size >= 0 && size < starts.length;
+        }
+
+        /** The number of a new name; only called where there is room for one. */
+        int add(int start, int length, int owner) {
+            if (!hasRoom()) {
                 return NONE;
             }
             starts[size] = start;
@@ -775,8 +784,11 @@ public final class MarloweHost {
 
         private int readName(Names names) {
             require(scanner.kind == NAME);
-            int number = names.numberOf(scanner.start, scanner.length, NONE);
-            require(number != NONE);
+            int number = names.find(scanner.start, scanner.length, NONE);
+            if (number == NONE) {
+                require(names.hasRoom());
+                number = names.add(scanner.start, scanner.length, NONE);
+            }
             scanner.advance();
             return number;
         }
@@ -786,10 +798,13 @@ public final class MarloweHost {
             int start = scanner.start;
             int length = scanner.length;
             scanner.advance();
+            require(scanner.kind == NAME);
+            // Choices are counted by themselves, and a choice's name stands before its party: a choice
+            // too many is told at its name, be the party one too many as well.
+            int number = choices.find(start, length, parties.find(scanner.start, scanner.length, NONE));
+            requireAt(start, number != NONE || choices.hasRoom());
             int party = readName(parties);
-            int number = choices.numberOf(start, length, party);
-            requireAt(start, number != NONE);
-            return number;
+            return number != NONE ? number : choices.add(start, length, party);
         }
     }
 

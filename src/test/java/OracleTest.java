@@ -254,9 +254,39 @@ public final class OracleTest {
                 + (5 + 9 * depth) + " " + maze(depth + 2);
     }
 
+    /** Names of each kind, about as many as may be, in an order in which each kind may be the first that is too many. */
+    private String crowd() {
+        StringBuilder text = new StringBuilder();
+        for (int i = 10 + up(30); i > 0; i--) {
+            String party = "p" + up(9);
+            String choice = "q" + up(2) + blank() + "p" + up(odds(70) ? 4 : 9) + blank();
+            switch (up(5)) {
+                case 0:
+                    text.append("assert made ").append(choice);
+                    break;
+                case 1:
+                    text.append("let x").append(up(9)).append(" chosen ").append(choice);
+                    break;
+                case 2:
+                    text.append("when [choice ").append(choice).append("[1 2] close] 9 ");
+                    break;
+                case 3:
+                    text.append("let x").append(up(9)).append(" balance ").append(party).append(" t").append(up(odds(90) ? 4 : 5)).append(blank());
+                    break;
+                default:
+                    text.append("pay ").append(party).append(" into ").append(party).append(" t0 ").append(number()).append(blank());
+                    break;
+            }
+        }
+        return text + "close";
+    }
+
     private String contract(int depth) {
         if (hue == 7 && depth == 0 && odds(50)) {
             return maze(0);
+        }
+        if (hue == 6 && depth == 0 && odds(40)) {
+            return crowd();
         }
         nodesLeft--;
         if (odds(4)) {

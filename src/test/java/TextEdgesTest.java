@@ -432,16 +432,28 @@ public final class TextEdgesTest {
     }
 
     private static void ninthChoiceOfNinthParty() {
-        Expect.sentence("WRONG is the first TOKEN that can not stand where it is; H: NAME P.");
-        // a CHOICE is a NAME and a P: as long as its P can not stand there is no ninth one
+        Expect.sentence("WRONG is the first TOKEN that can not stand where it is; numbered, each kind by itself (of one more its NAME is WRONG)");
         String full = choices(8) + "pay p2 to p3 t 1 pay p4 to p5 t 1 pay p6 to p7 t 1 ";
         counts(full + "close", 8, 1, 8, 0);
-        Expect.wrongAtBar(full + "assert made q9 |p8 close");
-        Expect.wrongAtBar(full + "assert made q0 |p8 close");
-        Expect.wrongAtBar(full + "let x chosen q9 |p8 close");
-        Expect.wrongAtBar(full + "when [choice q9 |p8 [1 2] close] 1 close");
+        // one more CHOICE and one more PARTY: neither NAME can stand, the CHOICE's is the first one
+        Expect.wrongAtBar(full + "assert made |q9 p8 close");
+        Expect.wrongAtBar(full + "assert made |q0 p8 close");
+        Expect.wrongAtBar(full + "let x chosen |q9 p8 close");
+        Expect.wrongAtBar(full + "let x chosen |q0 p8 close");
+        Expect.wrongAtBar(full + "when [choice |q9 p8 [1 2] close] 1 close");
+        Expect.wrongAtBar(full + "when [choice |q0 p8 [1 2] close] 1 close");
+        // a CHOICE can be named as its PARTY is
+        Expect.wrongAtBar(full + "assert made |p8 p8 close");
+        // one more CHOICE alone
         Expect.wrongAtBar(full + "assert made |q9 p7 close");
         Expect.wrongAtBar(full + "assert made |q0 p7 close");
+        // one more PARTY alone: there is still room for a CHOICE
+        String seven = choices(7) + "pay p2 to p3 t 1 pay p4 to p5 t 1 pay p6 to p7 t 1 ";
+        counts(seven + "close", 8, 1, 7, 0);
+        Expect.wrongAtBar(seven + "assert made q9 |p8 close");
+        Expect.wrongAtBar(seven + "let x chosen q0 |p8 close");
+        Expect.wrongAtBar(seven + "when [choice q9 |p8 [1 2] close] 1 close");
+        counts(seven + "assert made q9 p7 assert made q9 p7 assert made q0 p1 close", 8, 1, 8, 0);
     }
 
     private static void ninthChoiceWithoutParty() {
@@ -542,7 +554,7 @@ public final class TextEdgesTest {
 
     private static void nextNodeInBrackets() {
         Expect.sentence("NODES: each C, A, V, O but those in ( ) .. (the next one is WRONG)");
-        // "C, V, O, (" are told apart: the ( is no NODE, and can stand, the one in it is the next one
+        // the limit of 800 is one of C, A, V, O, that of 100 one of C, V, O, (: here the ( can stand, the one in it is the next one
         Expect.wrongAtBar(filled(800) + "(|close)");
         Expect.wrongAtBar(filled(800) + "((|close))");
         Expect.wrongAtBar(filled(799) + "let y (|1) close");

@@ -427,11 +427,12 @@ final class Oracle {
     private int choice() {
         check(word().sort == 'n');
         Word w = words.get(place++);
-        int party = name(0);
-        int number = intern(2, w.text + " " + party);
+        check(word().sort == 'n');
+        int number = intern(2, w.text + " " + word().text);
         if (number < 0) {
             throw new Wrong(w.at);
         }
+        name(0);
         return number;
     }
 
